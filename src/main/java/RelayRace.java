@@ -144,7 +144,7 @@ public final class RelayRace {
         if (from.lost) {
             return found(NULL_FOUND);
         }
-        events.size = 0;
+        int before = events.size;
         for (int i = 0; i + 3 <= from.size && events.size < MOST_TRIPLES; i += 3) {
             int[] items = from.items;
             if (!isEvent(items[i], items[i + 1], items[i + 2])) {
@@ -153,7 +153,7 @@ public final class RelayRace {
             events.append(items[i], items[i + 1], items[i + 2]);
         }
         runTold();
-        return events.size;
+        return events.size - before;
     }
 
     private void runTold() {

@@ -236,12 +236,9 @@ final class PlainModel {
     int read(int s) {
         if (out(s, 0, 3)) return BAD;
         if (sheets[s] == null) return find(1);
-        events = new ArrayList<>();
-        int whole = size(s) / 3;
-        for (int k = 0; k < whole; k++) {
-            if (event(item(s, 3 * k), item(s, 3 * k + 1), item(s, 3 * k + 2)) < 0) break;
-        }
-        return events.size();
+        int whole = size(s) / 3, came = 0;
+        while (came < whole && event(item(s, 3 * came), item(s, 3 * came + 1), item(s, 3 * came + 2)) > 0) came++;
+        return came;
     }
 
     // ---- moments

@@ -217,12 +217,15 @@ public final class PromisesTest {
         due("read(0)", x.read(0), NULL);
         due("count(8)", x.count(8), 1);
         due("count(3)", x.count(3), 1);
+        due("back()", x.back(), 0);
         fill(x, 0, 0, 1, 0, 0, 1, 2, 0, 1, 3);
-        due("read(0), in place of those told", x.read(0), 2);
+        due("read(0), two are whole", x.read(0), 2);
         metres(x, 0, 0, 5, 5, 10);
+        undoEvents(x);
         fill(x, 1, 1, 1, 0, 0, 1, 48, 0, 1, 1, 0);
         due("read(1), ended by a moment that is none", x.read(1), 1);
         metres(x, 0, 0, 5, 10);
+        undoEvents(x);
         fill(x, 2, 2, 3, 0, 0, 1, 1, 0);
         due("read(2), ended at once", x.read(2), 0);
         metres(x, 0, 5, 10, 15);
@@ -230,16 +233,51 @@ public final class PromisesTest {
         due("read(3), ended by a number", x.read(3), 0);
         fill(x, 3, 0, 1, 1, 0, 1, -1, 0);
         due("read(3), ended below 0", x.read(3), 1);
+        undoEvents(x);
         x.sheet(3, 1, 60);
         due("read(3), 8 of 20", x.read(3), 8);
         due("event(0, 0, 0)", x.event(0, 0, 0), FULL);
         metres(x, 0, 4, 8, 12);
+        undoEvents(x);
         x.sheet(3, 1, 2);
         due("read(3), none is whole", x.read(3), 0);
         x.event(0, 0, 0);
         x.sheet(3, 1, 0);
         due("read(3), empty", x.read(3), 0);
-        metres(x, 0, 5, 10, 15);
+        due("count(3), the one told stays", x.count(3), 1);
+        metres(x, 0, 4, 8, 12);
+        readBehindTold();
+    }
+
+    private static void undoEvents(RelayRace x) {
+        for (int k = 0; k < 8; k++) x.back();
+    }
+
+    private static void readBehindTold() {
+        RelayRace x = told("d5d5d5d5");
+        x.event(1, 0, 0);
+        fill(x, 0, 0, 1, 2, 0, 0, 3, 0);
+        due("read(0), behind one told", x.read(0), 2);
+        due("count(3)", x.count(3), 3);
+        metres(x, 0, 0, 5, 5, 9);
+        due("back(), the last of the sheet", x.back(), 2);
+        metres(x, 0, 0, 5, 5, 10);
+        due("back(), the first of the sheet", x.back(), 1);
+        metres(x, 0, 0, 5, 10, 15);
+        due("read(0)", x.read(0), 2);
+        due("read(0), once more", x.read(0), 2);
+        due("count(3)", x.count(3), 5);
+        fill(x, 1, 2, 1, 3, 0, 3, 0, 0);
+        due("read(1), behind five, ended by a kind", x.read(1), 1);
+        due("count(3)", x.count(3), 6);
+        fill(x, 2, 1, 1, 4, 0, 1, 5, 0, 1, 1, 0);
+        due("read(2), two of three", x.read(2), 2);
+        due("count(3)", x.count(3), 8);
+        metres(x, 0, 0, 5, 5, 5, 5, 5, 9);
+        due("read(2), with 8 told", x.read(2), 0);
+        due("count(3)", x.count(3), 8);
+        due("read(3), lost, with 8 told", x.read(3), NULL);
+        due("read(4), with 8 told", x.read(4), BAD);
     }
 
     private static void atStrides() {
