@@ -110,6 +110,7 @@ public final class MomentsBoundaryTest extends Boundary {
         wins(race("d5d5d5d5;d5d5d5d5", 10, TRIP, 0, 0), 1, 7);
         wins(race("n9n9n9n9;d8d8d8d8", 10, TRIP, 0, 0), 1, 4);
         wins(race("d5d5d5d5;d5d5d5d5", 60, TRIP, 0, 0), 1, 47);
+        wins(race("d5d5d5d5;d5d5d5d5", 60, TRIP, 47, 0), 1, 47);
         wins(told("d9d9d9d9;d7d7d7d7;d5d5d5d5;d3d3d3d3"), 0, 13);
         wins(told("d3d3d3d3;d5d5d5d5;d7d7d7d7;d9d9d9d9"), 3, 13);
     }
@@ -154,6 +155,17 @@ public final class MomentsBoundaryTest extends Boundary {
         due("changes()", x.changes(), 7);
         due("leader(0)", x.leader(0), 0);
         due("leader(1)", x.leader(1), 44);
+    }
+
+    @Says("of as far ones who has the less number.")
+    static void s2_rank0BehindAMomentInWhichAllStand() {
+        RelayRace x = race(LIKE, 60, TRIP, 0, 0, TRIP, 0, 1);
+        ranks(x, 0, 0, 1);
+        due("changes()", x.changes(), 0);
+        leads(x, 0, 48);
+        leads(race("d5d5d5d5", 60, DROP, 0, 0), 0, 48);
+        leads(race("d5d5d5d5;d6d6d6d6", 60, DROP, 0, 0, DROP, 0, 1), 1, 45);
+        due("changes()", race("d5d5d5d5;d6d6d6d6", 60, DROP, 0, 0, DROP, 0, 1).changes(), 1);
     }
 
     @Says("LEADER: who has RANK 0 behind most MOMENTS,")

@@ -172,6 +172,22 @@ public final class SeenBoundaryTest extends Boundary {
         due("ask(0, 1), four PACES alike for ever", seen(x, 4, 0, 1).ask(0, 1), 0);
     }
 
+    @Says("ASK of a RUNNER: the MOMENT behind which the greatest number of those of PACES by which all RANKS are alike is least,")
+    static void s4_askOfPacesThatAreNotThePaceTold() {
+        // SEEN behind TEAM 1, so 1 to 4. It trips in 1: behind it 1 and 2 are 5 metres short, 3 and 4 are not.
+        RelayRace x = seen(race(LIKE, 60, TRIP, 1, 1), 0, 0, 1);
+        due("was(0, 0, 0)", x.was(0, 0, 0), 0b11110);
+        due("ask(0, 0)", x.ask(0, 0), 1);
+    }
+
+    @Says("of like ones the least.")
+    static void s4_askWithPace1AndWithPace9AndWithNoOther() {
+        // Behind MOMENT 0 PACES 1 to 5 are behind TEAM 1 and 6 to 9 are not; behind 3 it is 1 to 4 and 5 to 9.
+        due("ask(0, 0), five at most behind 0 as behind 3", race("d5d5d5d5;d6d6d6d6", 60, TRIP, 1, 1).ask(0, 0), 0);
+        // Behind MOMENT 0 1 to 4 and 5 to 9; behind 5 1 to 5 and 6 to 9.
+        due("ask(0, 0), five at most behind 0 as behind 5", race("d5d5d5d5;d5d5d5d5", 60, TRIP, 1, 0).ask(0, 0), 0);
+    }
+
     @Says("of like ones the least.")
     static void s4_askOfLikeMoments() {
         due("ask(0, 0) of one TEAM", told("d5d5d5d5").ask(0, 0), 0);
@@ -207,6 +223,36 @@ public final class SeenBoundaryTest extends Boundary {
         chances(x, 8, 0, 1, 256);
         chances(x, 0, 0, 1, 1);
         chances(x, 16, 1, 1, 1);
+    }
+
+    @Says("the chance that a TEAM has WON: a FRACTION.")
+    static void s4_chanceByWhatIsToldNow() {
+        RelayRace x = race(LIKE, 30, TRIP, 10, 0);
+        chances(x, 8, 0, 1, 2);
+        spares(x, 1, 0, NONE);
+        x.event(TRIP, 0, 1);
+        chances(x, 8, 0, 3, 4);
+        spares(x, 0, NONE, NONE);
+        x.back();
+        chances(x, 8, 0, 1, 2);
+        spares(x, 1, 0, NONE);
+        // By LEGS of 10 it is HOME ahead of its TRIP.
+        x.along(10);
+        chances(x, 8, 0, 1, 1);
+        spares(x, 0, NONE, NONE);
+        x.along(30);
+        fill(x, 0, 0, TRIP, 3, 0);
+        x.read(0);
+        chances(x, 8, 0, 1, 4);
+        spares(x, 2, 0, 1);
+        x.undo();
+        x.type('6');
+        chances(x, 8, 0, 0, 1);
+        spares(x, NONE, NONE, NONE);
+        x.wipe();
+        tell(x, "d5d5d5d5");
+        chances(x, 8, 0, 1, 1);
+        spares(x, 0, NONE, NONE);
     }
 
     @Says("the chance that a TEAM has WON: a FRACTION.")

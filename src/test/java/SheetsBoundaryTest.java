@@ -553,6 +553,52 @@ public final class SheetsBoundaryTest extends Boundary {
         counts(8, x, 2);
     }
 
+    @Says("8 the number of the latest FINDING (0 before any).")
+    static void p35_8_itStaysWhateverElseIsCalled() {
+        RelayRace x = some();
+        counts(8, x, 5);
+        tell(x, ";d5d5d5d5");
+        x.undo();
+        x.type('6');
+        x.type(256);
+        x.fault();
+        x.along(33);
+        x.event(TRIP, 3, 3);
+        x.back();
+        x.runner(0, 0, 0);
+        x.at(0, 0, 0);
+        x.home(0);
+        x.lasted(0, 0);
+        x.won(0);
+        x.changes();
+        x.leader(0);
+        x.stood(0);
+        x.order(0, 0);
+        x.train(0, 0);
+        x.fit(0);
+        x.spare(0);
+        x.seen(0, 0, 0);
+        x.never();
+        x.was(0, 0, 0);
+        x.ask(0, 0);
+        x.chance(5, 0, 0);
+        x.years(7, 6, 0);
+        x.forget();
+        for (int s = 0; s < 4; s++) {
+            x.sheet(s, 2, 5);
+            x.put(s, 2, 0, 1);
+            x.get(s, 2, 0);
+            x.copy(s, 0, s, 1, 4);
+            x.write(0, s);
+            x.read(s);
+            x.lose(s);
+        }
+        x.digest();
+        x.wipe();
+        x.undo();
+        counts(8, x, 5);
+    }
+
     @Says("BAD.")
     static void p35_BAD_outside0To8() {
         Act act = (x, a) -> x.count(a[0]);
@@ -617,6 +663,29 @@ public final class SheetsBoundaryTest extends Boundary {
         RelayRace x = full();
         x.forget();
         due("digest() of as much as there may be", x.digest(), byWords(x));
+    }
+
+    @Says("of TEAMS, of MOMENTS 0, 9, 18, 30, 47 at(the MOMENT, it, 0 to 2),")
+    static void p36_theFiveMomentsOfATeamThatNeverComesHome() {
+        // 2 metres more behind each MOMENT, LEG 0 to the end of it in 29.
+        long h = chain(17, 1, 8, 60, 0, 0, 0, 96, 0, NONE);
+        h = chain(h, 2, 0, 0, 20, 0, 0, 38, 0, 0, 62, 1, 0, 96, 1, 0);
+        for (int leg = 0; leg < 4; leg++) h = chain(h, 1, 2, leg == 0 ? 30 : NONE, 1022, 7, 0);
+        h = chain(h, NONE, 0, NONE, NONE, NONE, NONE, NONE, NONE, NONE, 10, 0, 1);
+        RelayRace x = race("d2d2d2d2", 60);
+        due("digest()", x.digest(), chain(h, NONE, NONE, 0, 48, NONE, NONE, 0, NONE, NONE));
+    }
+
+    @Says("spare(0), never(), years(7, 6, 0 and 1);")
+    static void p36_theYearsOfSeed7With6Events() {
+        // By 6 EVENTS TEAM 1 has WON in 46; by 5 TEAM 2, by 7 none, by 6 of SEED 6 none.
+        RelayRace x = race("s4d2s4s3;d4d2d4d4;s6n3d2n5", 27);
+        due("years(7, 6, 0)", x.years(7, 6, 0), 1);
+        due("years(7, 6, 1)", x.years(7, 6, 1), 46);
+        due("years(7, 5, 0)", x.years(7, 5, 0), 2);
+        due("years(7, 7, 0)", x.years(7, 7, 0), NONE);
+        due("years(6, 6, 0)", x.years(6, 6, 0), NONE);
+        due("digest()", x.digest(), byWords(x));
     }
 
     @Says("as longs that wrap.")

@@ -175,6 +175,16 @@ public final class TellBoundaryTest extends Boundary {
         due("at(0, 0, 0)", x.at(0, 0, 0), 1);
     }
 
+    @Says("The last byte of the text is undone: how many are left.")
+    static void p04_theTeamsRunByWhatWasToldMeanwhile() {
+        RelayRace x = told("d5d5d5d5;");
+        x.along(10);
+        x.event(TRIP, 0, 0);
+        due("undo()", x.undo(), 8);
+        metres(x, 0, 0, 0, 5, 10, 15);
+        due("home(0)", x.home(0), 8);
+    }
+
     @Says("NOT: it is empty.")
     static void p04_NOT_anEmptyText() {
         refused("undo()", Boundary::fresh, (x, a) -> x.undo(), NOT, AS_BEFORE);
