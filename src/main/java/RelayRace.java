@@ -31,6 +31,9 @@ public final class RelayRace {
     private static final int CAST_FOUND = 3;
     private static final int STORE_FOUND = 4;
     private static final int SIZE_FOUND = 5;
+    /** Written out, as the rules list the functions of Integer and Long but not their constants. */
+    private static final int LEAST_INT = -2147483648;
+    private static final long LONG_BAD = -9223372036854775808L - BAD;
 
     /** A standing is 4 times the metres, and this for each moment (48 at most) that a team came home sooner. */
     private static final int HOME_STANDING = 4096;
@@ -506,7 +509,7 @@ public final class RelayRace {
 
     public long chance(int c, int team, int what) {
         if (c < 0 || c > 16 || !isTeam(team) || !isEither(what)) {
-            return Long.MIN_VALUE - BAD;
+            return LONG_BAD;
         }
         prepareStandings();
         long above = 0;
@@ -605,12 +608,12 @@ public final class RelayRace {
 
     public int get(int s, int form, int i) {
         if (!isSheet(s) || !isForm(form)) {
-            return Integer.MIN_VALUE;
+            return LEAST_INT;
         }
         int finding = findingAt(sheets[s], form, i);
         if (finding != 0) {
             latestFinding = finding;
-            return Integer.MIN_VALUE;
+            return LEAST_INT;
         }
         return sheets[s].items[i];
     }

@@ -27,7 +27,7 @@ public final class FaceTest {
         "\\bthrow\\b", "\\btry\\b", "\\bcatch\\b", "\\bsynchronized\\b", "\\bassert\\b", "->", "::", "\\bpackage\\b",
         "Exact\\b", "\\bthread\\b", "\\bSystem\\.(?!arraycopy)", "\\bRandom\\b", "\\bprotected\\b", "\\bvar\\b",
         "\\bimport (?!java\\.util\\.(Arrays|ArrayList|List|Iterator);)", "\\bArrays\\.(?!fill|copyOf|copyOfRange)",
-        "\\bMath\\.(?!min|max|abs|floorDiv|floorMod)", "\\b(Long|Integer)\\.(?!MIN_VALUE|MAX_VALUE|bitCount|compare)"};
+        "\\bMath\\.(?!min|max|abs|floorDiv|floorMod)", "\\b(Long|Integer)\\.(?!bitCount|compare)"};
 
     private static final int NO_LINE = -1;
 
